@@ -629,7 +629,10 @@ public final class WheatCounts {
   }
 
   private static int held(int v, int most) {
-    return Math.max(0, Math.min(v, most));
+    if (v < 0) {
+      return 0;
+    }
+    return v > most ? most : v;
   }
 
   private static boolean has(int set, int k) {
@@ -731,13 +734,16 @@ public final class WheatCounts {
       return i >= 0 && i < size ? numbers[i] : 0;
     }
 
+    /** The latest number; 0 where there is none. */
     int last() {
-      return get(size - 1);
+      return size > 0 && size <= numbers.length ? numbers[size - 1] : 0;
     }
 
     int removeLast() {
       int was = last();
-      size = Math.max(0, size - 1);
+      if (size > 0) {
+        size--;
+      }
       return was;
     }
 
@@ -1000,40 +1006,38 @@ public final class WheatCounts {
     }
   }
 
-  /** A TEXT, worked out from left to right: numbers, names, and below them what is done with the latest. */
+  /** A TEXT, worked out from left to right: numbers, names, and behind them what is done with the latest. */
   static final class Text {
     static final int FIRST_NAME = -1;
     static final int SECOND_NAME = -2;
     static final int THIRD_NAME = -3;
     private final int[] code;
-    private final Row stack;
+    private final int[] waiting;
 
     Text(Row read) {
       code = Arrays.copyOf(read.numbers, read.size);
-      stack = new Row(read.size);
+      waiting = new int[code.length];
     }
 
     int valueFor(int a, int b, int c) {
-      stack.clear();
+      int size = 0;
       for (int i = 0; i < code.length; i++) {
         int sign = code[i];
-        if (sign >= 0) {
-          stack.add(sign);
-        } else if (sign == FIRST_NAME) {
-          stack.add(a);
-        } else if (sign == SECOND_NAME) {
-          stack.add(b);
-        } else if (sign == THIRD_NAME) {
-          stack.add(c);
+        if (sign >= THIRD_NAME) {
+          if (size < waiting.length) {
+            waiting[size] = sign >= 0 ? sign : sign == FIRST_NAME ? a : sign == SECOND_NAME ? b : c;
+            size++;
+          }
         } else if (sign == -'!') {
-          stack.add(stack.removeLast() == 0 ? 1 : 0);
-        } else {
-          int right = stack.removeLast();
-          int left = stack.removeLast();
-          stack.add(joined(left, -sign, right));
+          if (size > 0) {
+            waiting[size - 1] = waiting[size - 1] == 0 ? 1 : 0;
+          }
+        } else if (size > 1) {
+          size--;
+          waiting[size - 1] = joined(waiting[size - 1], -sign, waiting[size]);
         }
       }
-      return stack.last();
+      return size > 0 ? waiting[0] : 0;
     }
 
     private static int joined(int left, int sign, int right) {
@@ -1312,25 +1316,12 @@ public final class WheatCounts {
 
     private boolean isFoundByOne(int v) {
       for (int a = 0; a < estate.people; a++) {
-        if (isFoundByMoving(a, 0, v)) {
-          moved = 1;
-          return true;
-        }
-      }
-      return false;
-    }
-
-    private boolean isFoundByTwo(int v) {
-      for (int a = 0; a < estate.people; a++) {
-        for (int start = 0; start < estate.cells; start++) {
-          places[a] = start;
-          for (int b = a + 1; b < estate.people && start != estate.at[a]; b++) {
-            if (isFoundByMoving(b, 2, v)) {
-              row[0] = a;
-              row[1] = start;
-              moved = 2;
-              return true;
-            }
+        for (int there = 0; there < estate.cells; there++) {
+          places[a] = there;
+          if (there != estate.at[a] && harvest() >= v) {
+            putDown(0, a);
+            moved = 1;
+            return true;
           }
         }
         places[a] = estate.at[a];
@@ -1338,18 +1329,31 @@ public final class WheatCounts {
       return false;
     }
 
-    /** Whether one more AT another CELL is enough; it is put down in the row from a place on. */
-    private boolean isFoundByMoving(int person, int from, int v) {
-      for (int start = 0; start < estate.cells; start++) {
-        places[person] = start;
-        if (start != estate.at[person] && harvest() >= v) {
-          row[from] = person;
-          row[from + 1] = start;
-          return true;
+    private boolean isFoundByTwo(int v) {
+      for (int a = 0; a < estate.people; a++) {
+        for (int there = 0; there < estate.cells; there++) {
+          places[a] = there;
+          for (int b = a + 1; b < estate.people && there != estate.at[a]; b++) {
+            for (int yonder = 0; yonder < estate.cells; yonder++) {
+              places[b] = yonder;
+              if (yonder != estate.at[b] && harvest() >= v) {
+                putDown(0, a);
+                putDown(2, b);
+                moved = 2;
+                return true;
+              }
+            }
+            places[b] = estate.at[b];
+          }
         }
+        places[a] = estate.at[a];
       }
-      places[person] = estate.at[person];
       return false;
+    }
+
+    private void putDown(int from, int person) {
+      row[from] = person;
+      row[from + 1] = places[person];
     }
   }
 
@@ -1389,7 +1393,7 @@ public final class WheatCounts {
     }
 
     int answer(int act, int x) {
-      return say(act, kind, x, 0);
+      return say(this, act, kind, x, 0);
     }
 
     /** The KIND, from one on upwards, that has a BODY for an act; -1 if none has. */
@@ -1409,27 +1413,28 @@ public final class WheatCounts {
       return i >= 0 && i < BODIES.length ? BODIES[i] : 0;
     }
 
-    private int say(int act, int from, int x, int depth) {
+    private static int say(Voices one, int act, int from, int x, int depth) {
       int owner = ownerOf(act, from);
       if (owner < 0 || depth > DEEPEST) {
         return 0;
       }
       int higher = Kinds.above(owner);
       int body = bodyOf(act, owner);
+      int own = one.kind;
       int next = depth + 1;
-      bodies.add(body);
+      one.bodies.add(body);
       switch (body) {
-        case 10: return x + n;
-        case 11: return say(LOOKS, kind, x, next) * 2;
-        case 12: return x - m;
-        case 13: return say(ADDS, kind, x, next) ^ say(GLANCES, kind, x, next);
-        case 20: return say(LOOKS, higher, x, next) * 3;
-        case 30: return say(ADDS, higher, x, next) - say(GLANCES, kind, 1, next);
-        case 40: return -say(GLANCES, higher, x, next);
-        case 50: return say(PROVES, higher, x, next) - say(LOOKS, kind, 2, next);
-        case 60: return say(ADDS, higher, x + 1, next);
-        case 70: return say(GLANCES, higher, x, next) ^ n;
-        case 71: return say(ADDS, kind, x, next) - say(PROVES, higher, x, next);
+        case 10: return x + one.n;
+        case 11: return say(one, LOOKS, own, x, next) * 2;
+        case 12: return x - one.m;
+        case 13: return say(one, ADDS, own, x, next) ^ say(one, GLANCES, own, x, next);
+        case 20: return say(one, LOOKS, higher, x, next) * 3;
+        case 30: return say(one, ADDS, higher, x, next) - say(one, GLANCES, own, 1, next);
+        case 40: return -say(one, GLANCES, higher, x, next);
+        case 50: return say(one, PROVES, higher, x, next) - say(one, LOOKS, own, 2, next);
+        case 60: return say(one, ADDS, higher, x + 1, next);
+        case 70: return say(one, GLANCES, higher, x, next) ^ one.n;
+        case 71: return say(one, ADDS, own, x, next) - say(one, PROVES, higher, x, next);
         default: return 0;
       }
     }
