@@ -298,6 +298,10 @@ public final class WheatCountsPromisesTest {
     x.lead(3, 0, 9);
     due(20, x.ofPerson(3, 6));
     due(0, x.ofPerson(0, 6));
+    x.lay(2, 0);
+    x.become(3, 67);
+    due(1, read(x, 0, "3"));
+    due(4, x.ofPerson(3, 4));
   }
 
   private static void lead() {
@@ -484,6 +488,12 @@ public final class WheatCountsPromisesTest {
     due(5, given("9-3-1", 0, 0, 0));
     due(4, given("16/2/2", 0, 0, 0));
     due(3, given("17%10%4", 0, 0, 0));
+    due(3, given("7*5%4", 0, 0, 0));
+    due(14, given("17%10*2", 0, 0, 0));
+    due(6, given("7/2*2", 0, 0, 0));
+    due(10, given("9-1+2", 0, 0, 0));
+    due(2, given("(1&1)+(3>2)", 0, 0, 0));
+    due(1, given("1&1", 0, 0, 0));
     due(3, given("0-7/2+6", 0, 0, 0));
     due(97, given("(0-7)/2+100", 0, 0, 0));
     due(99, given("(0-7)%2+100", 0, 0, 0));
@@ -548,6 +558,14 @@ public final class WheatCountsPromisesTest {
     due(STATE, late.hours(1));
     due(STATE, late.loose(1));
     due(0, late.then(50, 0));
+    WheatCounts later = made(3);
+    for (int i = 0; i < 199; i++) {
+      later.hours(50);
+    }
+    later.hours(10);
+    due(STATE, later.loose(40));
+    due(0, later.loose(39));
+    due(9999, later.count(2));
   }
 
   private static void thieves() {
@@ -733,6 +751,32 @@ public final class WheatCountsPromisesTest {
     due(0, robbed.leads(1, 30, 1, 3));
     due(NONE, made(3).leads(0, 1, 3, -1));
     due(0, made(3).leads(0, 0, 3, -1));
+    leadsByHour();
+  }
+
+  private static void leadsByHour() {
+    WheatCounts thief = made(3, 30, 1);
+    thief.sow(1, 0, 30);
+    read(thief, 1, "h*10");
+    due(0, thief.leads(1, 20, 2, -1));
+    due(1, thief.leads(1, 21, 2, -1));
+    due(1, thief.leads(1, 1, 3, -1));
+    due(0, thief.leads(1, 30, 3, 1));
+    WheatCounts slow = made(3, 0, 2);
+    read(slow, 0, "h");
+    due(0, slow.leads(0, 1, 3, -1));
+    due(1, slow.leads(0, 1, 2, -1));
+    due(0, slow.leads(0, 2, 2, 1));
+    WheatCounts walker = made(3, 0, 0);
+    read(walker, 0, "0");
+    walker.lead(0, 1, -1);
+    due(0, walker.leads(0, 2, 3, -1));
+    due(0, walker.leads(1, 1, 3, -1));
+    due(NONE, walker.leads(0, 3, 3, -1));
+    due(1, walker.leads(2, 1, 1, -1));
+    due(2, walker.leads(2, 1, 1, 1));
+    walker.sow(0, 1, 1);
+    due(NONE, walker.leads(0, 1, 3, -1));
   }
 
   private static void sums() {
@@ -853,6 +897,16 @@ public final class WheatCountsPromisesTest {
     WheatCounts two = made(3, 10, 0, 0, 2);
     due(6, two.gains(0, 1));
     due(150, two.gains(1, 50));
+    WheatCounts alone = made(3, 0, 0);
+    due(6, alone.gains(0, 2));
+    WheatCounts walkers = made(3, 0, 0, 0, 2, 0, 0);
+    read(walkers, 0, "0");
+    walkers.sow(2, 1, 1);
+    walkers.lead(2, 1, 1);
+    // without the first one the others go on as they are
+    due(3, walkers.gains(0, 3));
+    due(0, walkers.gains(1, 2));
+    due(2, walkers.gains(2, 2));
   }
 
   private static void odds() {
