@@ -236,8 +236,12 @@ public final class WheatCountsEdgesTest {
 
   /** Goes on until HOUR is as told. */
   private static WheatCounts until(WheatCounts x, int hour) {
-    while (x.count(2) < hour) {
-      x.hours(Math.min(50, hour - x.count(2)));
+    // few calls: an object is used for 512 of them
+    int now = x.count(2);
+    while (now < hour) {
+      int n = Math.min(50, hour - now);
+      x.hours(n);
+      now += n;
     }
     return x;
   }
@@ -848,6 +852,11 @@ public final class WheatCountsEdgesTest {
         due(a == 0 ? 5 : 6, given("!!m+5", a, 0, 0));
       }
     });
+    test("TEXTS: all is worked out, and none of it stops the rest", () -> {
+      due(1, given("1|1/0", 0, 0, 0));
+      due(0, given("0&1%0", 0, 0, 0));
+      due(1, given("!(m/0|m%0)&!(g/(1-1))", LEAST, MOST, 0));
+    });
     test("TEXTS: what is nearer is done first, alike ones from the left", () -> {
       due(1, given("1|0&0", 0, 0, 0));
       due(0, given("0&1|0", 0, 0, 0));
@@ -1409,6 +1418,11 @@ public final class WheatCountsEdgesTest {
         dueGrains(x, by[v - 2], 0, 1);
       }
       due(0, made(3).hail(9));
+      WheatCounts wide = made(10);
+      for (int cell = 0; cell < 10; cell++) {
+        wide.sow(cell, GRAINS, 99999);
+      }
+      due(499990, wide.hail(2));
       refused(WheatCountsEdgesTest::rich, BEYOND, y -> y.hail(1), y -> y.hail(10), y -> y.hail(0), y -> y.hail(-1), y -> y.hail(-2), y -> y.hail(LEAST), y -> y.hail(MOST));
     });
   }
@@ -1596,6 +1610,52 @@ public final class WheatCountsEdgesTest {
       dueRow(sent(dark(3, 1, 0, 51, 1, 12, 1), 1, 1, -1), 2, 4, 2, 0, 1, 2, 2);
       dueRow(sent(dark(4, 10, 1, 62, 0, 41, 0), 1, 0, 0), 3, 5, 2, 0, 2, 2, 2);
       dueRow(sent(dark(4, 42, 1, 11, 1, 31, 3), -1, 1, 0), 3, 4, 3, 0, 2, 2, 0);
+    });
+    test("LEAD: an own CELL is none of the other ones; the last CELL is the last", () -> {
+      WheatCounts x = dark(10, SCARECROW, 5, LOOKER, 1);
+      dueRow(x, 0, 1, 1, 1, 0);
+      dueRow(x, 9, 1, 1, 1, 9);
+      WheatCounts three = dark(10, LOOKER, 5, SCARECROW, 5, LOVER, 5);
+      dueRow(three, 0, 3, 1, 0, 0, 2, 0);
+      dueRow(three, 9, 3, 1, 0, 9, 2, 9);
+      WheatCounts other = dark(10, SCARECROW, 5, LOOKER, 5, LOVER, 5);
+      dueRow(other, 0, 3, 1, 1, 0, 2, 0);
+      dueRow(other, 5, 3, 1);
+    });
+    test("LEAD: who goes on turns at either end", () -> {
+      WheatCounts x = sent(dark(3, LOOKER, 2, LOOKER, 0), 1, -1);
+      int[] behind = {0, 1, 2, 2};
+      for (int n = 0; n <= 3; n++) {
+        dueRow(x, 2, behind[n], n);
+        dueRow(x, 0, behind[n], n);
+      }
+      // the other one joins: at 1 it comes to 2 in the second HOUR, and turns there
+      x.lead(1, WAY, 1);
+      dueRow(x, 2, 4, 3, 1, 1);
+      dueRow(x, 2, 3, 2, 1, 1);
+      dueRow(x, 2, 4, 2, 1, 2);
+      due(NONE, x.leads(2, 5, 3, -1));
+    });
+    test("LEAD: none, one, eight PEOPLE, in three and in ten CELLS", () -> {
+      due(NONE, made(10).leads(9, 1, 3, -1));
+      due(NONE, made(3).leads(2, 1, 3, -1));
+      dueRow(made(3), 2, 0, 3);
+      for (int n = 3; n <= 10; n += 7) {
+        WheatCounts x = dark(n);
+        for (int p = 0; p < 8; p++) {
+          x.person(LOOKER, n - 2);
+          x.lead(p, WAY, 0);
+        }
+        dueRow(x, n - 2, 24, 3);
+        due(NONE, x.leads(n - 2, 25, 3, -1));
+        dueRow(x, n - 1, 3, 3, 0, n - 1);
+        dueRow(x, n - 1, 6, 3, 0, n - 1, 1, n - 1);
+        due(NONE, x.leads(n - 1, 7, 3, -1));
+        x.become(6, LOVER);
+        x.become(7, LOVER + 9);
+        dueRow(x, 0, 12, 3, 6, 0, 7, 0);
+        due(NONE, x.leads(0, 13, 3, -1));
+      }
     });
     test("LEAD: v or more, not v alone", () -> {
       WheatCounts x = dark(3, BRIDE, 0);
@@ -1956,6 +2016,25 @@ public final class WheatCountsEdgesTest {
       due(9, x.count(10));
       refused(WheatCountsEdgesTest::traced, NONE, y -> y.trace(9), y -> y.trace(-1), y -> y.trace(39), y -> y.trace(40), y -> y.trace(LEAST), y -> y.trace(MOST));
       refused(WheatCountsEdgesTest::empty, NONE, y -> y.trace(0));
+    });
+    test("THE TRACE: BODIES of each act of each KIND, as they began, what stands left first", () -> {
+      int[][] bodies = {
+        {10}, {11, 10}, {12}, {13, 11, 10, 12},
+        {20, 10}, {11, 20, 10}, {12}, {13, 11, 20, 10, 12},
+        {10}, {30, 11, 10, 12}, {12}, {13, 30, 11, 10, 12, 12},
+        {10}, {11, 10}, {40, 12}, {13, 11, 10, 40, 12},
+        {20, 10}, {11, 20, 10}, {12}, {50, 13, 11, 20, 10, 12, 20, 10},
+        {10}, {60, 30, 11, 10, 12}, {12}, {13, 60, 30, 11, 10, 12, 12},
+        {10}, {11, 10}, {70, 40, 12}, {71, 11, 10, 13, 11, 10, 70, 40, 12}};
+      for (int i = 0; i < bodies.length; i++) {
+        WheatCounts x = made(3, 10 * (i / 4), 0);
+        x.voice(0, i % 4, 5);
+        due(bodies[i].length, x.count(10));
+        for (int k = 0; k < bodies[i].length; k++) {
+          due(bodies[i][k], x.trace(k));
+        }
+        due(NONE, x.trace(bodies[i].length));
+      }
     });
     test("THE TRACE is of the latest voice(), also if that is shorter", () -> {
       WheatCounts x = traced();

@@ -21,7 +21,7 @@ public final class WheatCountsModelTest {
     for (int run = 0; run < RUNS; run++) {
       WheatCounts x = new WheatCounts();
       Model model = new Model();
-      Drawer drawer = new Drawer(new Random(run), run % 4, model);
+      Drawer drawer = new Drawer(new Random(run), run % 4, run % 16 == 13, model);
       List<String> told = new ArrayList<>();
       for (int i = 0; i < CALLS; i++) {
         drawer.draw(i);
@@ -67,17 +67,22 @@ public final class WheatCountsModelTest {
       "loose", "evening", "hail", "then", "full", "leads", "sums", "looked", "watch", "hide", "gains", "odds", "seed",
       "voice", "trace", "sheet", "put", "move", "weeds", "judge", "image", "restore", "tell", "check", "count", "told",
       "sow", "lay", "lead", "put", "put", "put", "sheet", "looked", "leads", "evening"};
+    private static final int FIRST_CALLS = 14;
+    private static final int LATE_CALLS = 199;
     private static final String SIGNS = "mfhg0123456789+-*/%<=>&|!()x \u00e9";
     private final Random random;
     private final int mood;
+    private final boolean late;
     private final Model model;
     private String text = "";
     String name;
     private long[] a;
 
-    Drawer(Random random, int mood, Model model) {
+    /** A late one comes to HOURS near 9999 first, so that what is only thought goes beyond. */
+    Drawer(Random random, int mood, boolean late, Model model) {
       this.random = random;
       this.mood = mood;
+      this.late = late;
       this.model = model;
     }
 
@@ -128,12 +133,14 @@ public final class WheatCountsModelTest {
     }
 
     void draw(int i) {
-      if (i < 14 && mood != 3 && !oneIn(3)) {
+      if (i < FIRST_CALLS && mood != 3 && !oneIn(3)) {
         if (i == 0) {
           call("field", about(3, 10));
         } else {
           call("person", about(0, 69), about(0, model.n - 1));
         }
+      } else if (late && i < FIRST_CALLS + LATE_CALLS) {
+        call("hours", 50);
       } else if (!text.isEmpty()) {
         goOnWithText();
       } else if (oneIn(mood == 1 ? 10 : 25)) {
@@ -167,6 +174,9 @@ public final class WheatCountsModelTest {
     }
 
     private String grown(String names, int depth) {
+      if (late && oneIn(12)) {
+        return "(h>" + within(9940, 9999) + ")";
+      }
       if (depth <= 0 || oneIn(4)) {
         return random.nextBoolean() ? "" + names.charAt(random.nextInt(3)) : "" + random.nextInt(oneIn(4) ? 12000 : 12);
       }
